@@ -669,7 +669,7 @@ public final class CodedRelays {
             forget();
         }
 
-        private void forget() {
+        void forget() {
             Arrays.fill(fateCounts, 0);
             sentCount = 0;
             lastVector = NONE;

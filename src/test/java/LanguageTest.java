@@ -183,24 +183,23 @@ public final class LanguageTest {
     private static void room() {
         com.sun.management.ThreadMXBean bean =
             (com.sun.management.ThreadMXBean) ManagementFactory.getThreadMXBean();
-        long id = Thread.currentThread().getId();
         CodedRelays x = full();
         x.keep(0);
         x.keep(1);
         use(x);
-        long before = bean.getThreadAllocatedBytes(id);
+        long before = bean.getCurrentThreadAllocatedBytes();
         for (int i = 0; i < 40; i++) {
             use(x);
         }
-        long made = bean.getThreadAllocatedBytes(id) - before;
+        long made = bean.getCurrentThreadAllocatedBytes() - before;
         if (made > 10_000) {
             fault("forty times fourteen calls made " + made + " bytes");
         }
-        before = bean.getThreadAllocatedBytes(id);
+        before = bean.getCurrentThreadAllocatedBytes();
         CodedRelays y = new CodedRelays();
         y.keep(0);
         y.keep(1);
-        made = bean.getThreadAllocatedBytes(id) - before;
+        made = bean.getCurrentThreadAllocatedBytes() - before;
         if (made > 40_000) {
             fault("an object with both slots takes " + made + " bytes");
         }

@@ -255,10 +255,11 @@ public final class PromiseTest {
     static void promise4() {
         CodedRelays x = busy();
         int state = stateOf(x);
-        x.setPayload(0, 200);
         due("setNodes(4), as before", x.setNodes(4), 4);
         due("links()", x.links(), 0);
         begun(x, state, 5);
+        x.setPayload(0, 200);
+        due("setNodes(4) again", x.setNodes(4), 4);
         due("payloads stay", x.payload(0, 0), 200);
         due("all are honest: 1", x.setBehavior(1, 3), CodedRelays.HONEST);
         due("all are honest: 2", x.setBehavior(2, 3), CodedRelays.HONEST);
@@ -369,6 +370,23 @@ public final class PromiseTest {
         x.run(1);
         due("half of one is one", x.lastSent(1), 1);
         due("a choice among one takes a number too", stateOf(x), after(state, 2));
+        halves();
+    }
+
+    /** With 1 to 8 sums a holding relay chooses among the first 1, 1, 2, 2, 3, 3, 4 and 4. */
+    private static void halves() {
+        CodedRelays x = network(3, 0, 1, 0, 1, 2, 0);
+        x.setPackets(8);
+        x.setBehavior(1, CodedRelays.HOLDING);
+        for (int rank = 1; rank <= 8; rank++) {
+            x.setState(stateFor(255, (1 << (rank - 1)) - 1));
+            x.run(1);
+            due("rank(1)", x.rank(1), rank);
+            int choices = (1 << (rank + 1) / 2) - 1;
+            x.setState(stateFor(255, 0, choices, choices - 1));
+            x.run(1);
+            due("all of the first half of " + rank, x.lastSent(1), choices);
+        }
     }
 
     static void promise8() {
@@ -645,6 +663,13 @@ public final class PromiseTest {
             y.run(19);
             due("LOST of 19 with a loss of " + loss, y.fates(0, CodedRelays.LOST), loss == 0 ? 0 : 19 / loss);
         }
+        CodedRelays again = network(3, 0, 1, 3);
+        again.run(2);
+        again.setPayload(0, 1);
+        again.run(2);
+        due("losses are counted from the beginning of the generation", again.fates(0, CodedRelays.LOST), 0);
+        again.run(1);
+        due("the third one is lost", again.fates(0, CodedRelays.LOST), 1);
         conflicts();
         refusedAll(x, "fates(v, 0)", v -> x.fates(v, 0), -1, 1, 20, Integer.MAX_VALUE, Integer.MIN_VALUE);
         refusedAll(x, "fates(0, v)", v -> x.fates(0, v), -1, 4, Integer.MAX_VALUE, Integer.MIN_VALUE);
@@ -704,6 +729,12 @@ public final class PromiseTest {
         x.run(1);
         due("differing(): the lost ones of link 0 are 0 together", x.differing(), 1);
         due("differing() without links", new CodedRelays().differing(), 0);
+        CodedRelays y = network(3);
+        for (int i = 0; i < 20; i++) {
+            y.addLink(0, 1, 1);
+        }
+        y.run(1);
+        due("differing() of 20 links", y.differing(), 20);
     }
 
     static void promise23() {
@@ -761,6 +792,21 @@ public final class PromiseTest {
         due("solve(2, 1)", x.solve(2, 1), 34);
         due("wrong()", x.wrong(), 1);
         due("wrong() of a new object", new CodedRelays().wrong(), 0);
+        CodedRelays y = network(10, 0, 1, 0);
+        y.setPackets(8);
+        for (int i = 2; i < 10; i++) {
+            y.addLink(1, i, 0);
+        }
+        y.setBehavior(1, CodedRelays.ALTERING);
+        y.run(50);
+        int count = 0;
+        for (int node = 1; node < 10; node++) {
+            for (int packet = 0; packet < 8; packet++) {
+                count += y.solve(node, packet) == 17 * (packet + 1) ? 0 : 1;
+            }
+        }
+        due("knows(9)", y.knows(9), 255);
+        due("wrong() of ten nodes", y.wrong(), count);
     }
 
     static void promise26() {
@@ -783,6 +829,14 @@ public final class PromiseTest {
         refusedAll(x, "combination(1, v)", v -> x.combination(1, v), -1, 16, 256, Integer.MAX_VALUE, Integer.MIN_VALUE);
         refusedAll(x, "combination(v, 0)", v -> x.combination(v, 0), -1, 3, Integer.MAX_VALUE, Integer.MIN_VALUE);
         x.setPackets(8);
+        x.runUntil(1);
+        for (int set = 0; set < 256; set++) {
+            int sum = 0;
+            for (int i = 0; i < 8; i++) {
+                sum ^= (set >> i & 1) * x.vector(1, i);
+            }
+            due("combination(1, " + sum + ") of eight", x.combination(1, sum), set);
+        }
         due("combination(0, 255)", x.combination(0, 255), 255);
         due("combination(0, 256)", x.combination(0, 256), BAD);
     }
@@ -855,6 +909,8 @@ public final class PromiseTest {
         refusedAll(x, "suspicions", x::suspicions, 0, 2, 3, 4, -1, Integer.MAX_VALUE, Integer.MIN_VALUE);
         CodedRelays y = network(3, 0, 1, 0, 1, 2, 0);
         due("suspicions(1) at the beginning", y.suspicions(1), 0);
+        due("suspicions(1) when link 0 alone makes it a relay", network(3, 1, 2, 0).suspicions(1), 0);
+        due("suspicions(1) when links lead only to it", network(3, 0, 1, 0).suspicions(1), BAD);
         roundWith(y, 1);
         due("suspicions(1) with 1 unsent", y.suspicions(1), 8);
         y.run(50);
@@ -919,6 +975,11 @@ public final class PromiseTest {
     }
 
     private static void whichRelay() {
+        CodedRelays large = network(10, 0, 8, 0, 8, 9, 0);
+        large.setBehavior(8, CodedRelays.SILENT);
+        large.runUntil(8);
+        due("checkRandomly(50) with ten nodes", large.checkRandomly(50), 3);
+        due("isCutOff(8)", large.isCutOff(8), 1);
         // Relays are 1, 2 and 4; node 3 is none, nor is the source.
         CodedRelays x = network(6, 0, 4, 0, 0, 2, 0, 0, 1, 0, 4, 5, 0, 2, 5, 0, 1, 5, 0, 0, 3, 0);
         x.setBehavior(1, CodedRelays.SILENT);
@@ -1019,6 +1080,10 @@ public final class PromiseTest {
         x.addLink(3, 4, 0);
         due("neededLink(4) with two", x.neededLink(4), 1);
         refusedAll(x, "neededLink", x::neededLink, 0, 5, -1, 9, 10, Integer.MAX_VALUE, Integer.MIN_VALUE);
+        CodedRelays twice = network(3, 1, 2, 0, 1, 2, 0, 0, 1, 0);
+        due("neededLink(2): either of the first two would do", twice.neededLink(2), 2);
+        CodedRelays before = network(3, 0, 1, 0, 0, 1, 0, 1, 2, 0);
+        due("neededLink(2): either of the first two would do", before.neededLink(2), 2);
         CodedRelays y = busy();
         due("neededLink(1) of one that is cut off", y.neededLink(1), NONE);
         due("neededLink(2): only open links", y.neededLink(2), 2);
@@ -1195,8 +1260,12 @@ public final class PromiseTest {
         x.clearText();
         write(x, "0>1/1;;");
         x.setNodes(10);
-        x.setPackets(2);
+        x.setPackets(8);
+        for (int i = 0; i < 20; i++) {
+            x.addLink(i % 9, i % 9 + 1, i % 10);
+        }
         x.setState(9);
+        x.run(50);
         x.setLimit(9);
         due("restore(0)", x.restore(0), 5);
         due("the text is not restored", x.clearText(), 7);
