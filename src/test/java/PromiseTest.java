@@ -6,11 +6,7 @@ import java.util.function.ToIntFunction;
  * wrong inputs. What is due is written out, or follows from the document's words; random numbers
  * are steered by setting a state from which the wanted ones come.
  */
-public final class PromiseTest {
-    private static final int BAD = -1;
-    private static final int FULL = -2;
-    private static final int NOT = -3;
-    private static final int NONE = -4;
+public final class PromiseTest extends Steering {
     private static final int PROMISES = 43;
 
     private static int promise = 0;
@@ -70,86 +66,6 @@ public final class PromiseTest {
         return words.append(" limit ").append(limit).toString();
     }
 
-    private static long next(long state) {
-        return (state * 1103515245L + 12345L) & 0x7fffffffL;
-    }
-
-    private static long after(long state, int numbers) {
-        long s = state;
-        for (int i = 0; i < numbers; i++) {
-            s = next(s);
-        }
-        return s;
-    }
-
-    /** A state after which random numbers below the first, third .. are the second, fourth .. */
-    private static int stateFor(int... belowAndWanted) {
-        for (int start = 0; start >= 0; start++) {
-            long s = start;
-            int i = 0;
-            while (i < belowAndWanted.length) {
-                s = next(s);
-                if ((s >> 16) % belowAndWanted[i] != belowAndWanted[i + 1]) {
-                    break;
-                }
-                i += 2;
-            }
-            if (i >= belowAndWanted.length) {
-                return start;
-            }
-        }
-        throw new IllegalStateException("no such state");
-    }
-
-    private static CodedRelays network(int nodes, int... fromToLoss) {
-        CodedRelays x = new CodedRelays();
-        x.setNodes(nodes);
-        for (int i = 0; i < fromToLoss.length; i += 3) {
-            x.addLink(fromToLoss[i], fromToLoss[i + 1], fromToLoss[i + 2]);
-        }
-        return x;
-    }
-
-    /** Runs a round in which the first random number below 15 makes the source choose this vector. */
-    private static int roundWith(CodedRelays x, int vector) {
-        x.setState(stateFor(15, vector - 1));
-        return x.run(1);
-    }
-
-    private static void write(CodedRelays x, String text) {
-        for (int i = 0; i < text.length(); i++) {
-            x.append(text.charAt(i));
-        }
-    }
-
-    private static int faultOf(CodedRelays x, String text) {
-        x.clearText();
-        write(x, text);
-        return x.faultPosition();
-    }
-
-    /** A generation under way: losses, sums, a mark on node 2, and node 1 cut off. */
-    private static CodedRelays busy() {
-        CodedRelays x = network(4, 0, 1, 2, 1, 2, 0, 0, 2, 0, 2, 3, 0);
-        x.setBehavior(1, CodedRelays.LAZY);
-        x.setBehavior(2, CodedRelays.SILENT);
-        x.setState(7);
-        x.run(12);
-        x.setLimit(1);
-        x.check(1, firstSuspicion(x, 1));
-        x.setLimit(5);
-        x.check(2, firstSuspicion(x, 2));
-        return x;
-    }
-
-    private static int firstSuspicion(CodedRelays x, int relay) {
-        int projection = 1;
-        while (x.suspect(relay, projection) == 0) {
-            projection++;
-        }
-        return projection;
-    }
-
     /** A generation has just begun, with the random state and the limit that stay. */
     private static void begun(CodedRelays x, int state, int limit) {
         due("rounds() at the beginning", x.rounds(), 0);
@@ -172,12 +88,6 @@ public final class PromiseTest {
         }
         due("the state stays", x.setState(state), state);
         due("the limit stays", x.setLimit(limit), limit);
-    }
-
-    private static int stateOf(CodedRelays x) {
-        int state = x.setState(0);
-        x.setState(state);
-        return state;
     }
 
     // ---- the promises
@@ -512,39 +422,13 @@ public final class PromiseTest {
         lastRounds();
     }
 
-    /** Looks for states in which node 9 knows all after 50 rounds, and after 51. */
+    /** Node 9 knows all after just 50 rounds, and after 51. */
     private static void lastRounds() {
-        boolean inFifty = false;
-        boolean inMore = false;
-        for (int state = 0; state < 5000 && !(inFifty && inMore); state++) {
-            CodedRelays x = longWay(state);
-            int rounds = 0;
-            while (x.rank(9) < 8 && rounds < 60) {
-                rounds += 1;
-                x.run(1);
-            }
-            if (rounds == 50) {
-                inFifty = true;
-                due("runUntil(9) that takes 50", longWay(state).runUntil(9), 50);
-            } else if (rounds == 51) {
-                inMore = true;
-                CodedRelays y = longWay(state);
-                due("runUntil(9) that takes 51", y.runUntil(9), NONE);
-                due("rounds()", y.rounds(), 50);
-                due("the last one", y.runUntil(9), 1);
-            }
-        }
-        due("both were found", inFifty && inMore ? 1 : 0, 1);
-    }
-
-    private static CodedRelays longWay(int state) {
-        CodedRelays x = network(10);
-        x.setPackets(8);
-        for (int i = 0; i < 9; i++) {
-            x.addLink(i, i + 1, i < 5 ? 2 : 0);
-        }
-        x.setState(state);
-        return x;
+        due("runUntil(9) that takes 50", longWay(stateForLongWay(50)).runUntil(9), 50);
+        CodedRelays x = longWay(stateForLongWay(51));
+        due("runUntil(9) that takes 51", x.runUntil(9), NONE);
+        due("rounds()", x.rounds(), 50);
+        due("the last one", x.runUntil(9), 1);
     }
 
     static void promise12() {
@@ -871,16 +755,6 @@ public final class PromiseTest {
         x.setState(stateFor(15, 1, 15, 6));
         x.run(1);
         return x.commonRank(1, 2);
-    }
-
-    /** Relay 1 has 1, 2 and 4 and has sent 1 alone. */
-    private static CodedRelays lazyRelay() {
-        CodedRelays x = network(4, 0, 1, 0, 1, 2, 0);
-        x.setBehavior(1, CodedRelays.LAZY);
-        roundWith(x, 1);
-        roundWith(x, 2);
-        roundWith(x, 4);
-        return x;
     }
 
     static void promise28() {
