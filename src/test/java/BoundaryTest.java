@@ -872,6 +872,22 @@ public final class BoundaryTest extends Sentences {
         due("solve(9, 1)", x.solve(9, 1), 34);
         due("wrong()", x.wrong(), 1);
         due("wrong() without bad relays", honest().wrong(), 0);
+        wrongOfTheLargest();
+    }
+
+    /** Ten nodes and eight packets; each node from 2 to 9 knows packet 7 alone, by an altered sum. */
+    private static void wrongOfTheLargest() {
+        CodedRelays x = network(10, 0, 1, 0);
+        for (int i = 2; i < 10; i++) {
+            x.addLink(1, i, 0);
+        }
+        x.setPackets(8);
+        x.setBehavior(1, CodedRelays.ALTERING);
+        x.setState(stateFor(255, 127));
+        x.run(1);
+        x.run(1);
+        due("knows(9)", x.knows(9), 128);
+        due("wrong() of eight nodes and one packet", x.wrong(), 8);
     }
 
     private static CodedRelays honest() {
@@ -1559,12 +1575,13 @@ public final class BoundaryTest extends Sentences {
         x.setNodes(10);
         x.setPackets(8);
         for (int i = 0; i < 20; i++) {
-            x.addLink(i % 9, 9, i % 10);
+            x.addLink(i % 9, i % 9 + 1, i < 9 ? 4 : 0);
         }
         x.setBehavior(1, CodedRelays.ALTERING);
         x.setLimit(1);
         x.setState(99);
-        x.run(50);
+        x.run(49);
+        due("all nodes have something else now", x.rank(1) + x.rank(2) + x.rank(3), 24);
         due("restore(1)", x.restore(1), 15);
         CodedRelays y = lively();
         y.keep(1);

@@ -198,6 +198,7 @@ abstract class Sentences extends Steering {
         for (int i = 1; i < x.nodes(); i++) {
             words.append(x.setBehavior(i, 0));
         }
+        words.append(" next ").append(x.checksum());
         words.append(" packets ").append(x.setPackets(4)).append(' ');
     }
 
@@ -210,9 +211,14 @@ abstract class Sentences extends Steering {
 
     // ---- more networks
 
-    /** The busy network some rounds after it was kept in slot 0, with a text; slot 1 is empty. */
+    /**
+     * A busy network some rounds after it was kept in slot 0, with a text; slot 1 is empty. One of the
+     * links that stay open has losses, and one payload is not as at first.
+     */
     static CodedRelays lively() {
-        CodedRelays x = busy();
+        CodedRelays x = network(4, 0, 1, 2, 1, 2, 0, 0, 2, 7, 2, 3, 0);
+        x.setPayload(3, 200);
+        keptBusy(x);
         x.keep(0);
         x.run(3);
         write(x, "0>3/2;b3=1;");

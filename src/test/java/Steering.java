@@ -66,7 +66,10 @@ abstract class Steering {
 
     /** A generation under way: losses, sums, a mark on node 2, and node 1 cut off. */
     static CodedRelays busy() {
-        CodedRelays x = network(4, 0, 1, 2, 1, 2, 0, 0, 2, 0, 2, 3, 0);
+        return keptBusy(network(4, 0, 1, 2, 1, 2, 0, 0, 2, 0, 2, 3, 0));
+    }
+
+    static CodedRelays keptBusy(CodedRelays x) {
         x.setBehavior(1, CodedRelays.LAZY);
         x.setBehavior(2, CodedRelays.SILENT);
         x.setState(7);
