@@ -188,12 +188,12 @@ public final class LanguageTest {
         x.keep(1);
         use(x);
         long before = bean.getCurrentThreadAllocatedBytes();
-        for (int i = 0; i < 40; i++) {
+        for (int i = 0; i < 30; i++) {
             use(x);
         }
         long made = bean.getCurrentThreadAllocatedBytes() - before;
         if (made > 10_000) {
-            fault("forty times fourteen calls made " + made + " bytes");
+            fault("thirty times fourteen calls made " + made + " bytes");
         }
         before = bean.getCurrentThreadAllocatedBytes();
         CodedRelays y = new CodedRelays();

@@ -18,7 +18,8 @@ import java.util.regex.Pattern;
  */
 public final class ModelTest {
     private static final int OBJECTS = 1500;
-    private static final int CALLS = 250;
+    /** Each is followed by checksum(), so that an object comes just to its 512th call. */
+    private static final int CALLS = 256;
 
     private static int wrong = 0;
     private static final Map<String, Method> REAL = new HashMap<>();
@@ -246,6 +247,9 @@ public final class ModelTest {
         }
 
         void call(String name, Object... args) throws Exception {
+            if (said.size() >= CALLS) {
+                return;
+            }
             long got = ((Number) REAL.get(name).invoke(real, args)).longValue();
             long want = ((Number) MODEL.get(name).invoke(model, args)).longValue();
             String words = name + Arrays.toString(args);

@@ -4,7 +4,8 @@ import java.util.function.ToIntFunction;
 /**
  * The promises 1 to 43, one method each: ordinary inputs, the edges that the document names, and
  * wrong inputs. What is due is written out, or follows from the document's words; random numbers
- * are steered by setting a state from which the wanted ones come.
+ * are steered by setting a state from which the wanted ones come. No object is used for more than
+ * 512 calls, since the document leaves free what later ones answer (CallCountTest counts them).
  */
 public final class PromiseTest extends Steering {
     private static final int PROMISES = 43;
@@ -55,10 +56,12 @@ public final class PromiseTest extends Steering {
     private static String picture(CodedRelays x) {
         StringBuilder words = new StringBuilder();
         words.append(x.checksum()).append(' ').append(x.faultPosition());
-        for (int i = 0; i < x.links(); i++) {
+        int links = x.links();
+        for (int i = 0; i < links; i++) {
             words.append(' ').append(x.link(i, 0)).append(x.link(i, 1)).append(x.link(i, 2));
         }
-        for (int i = 1; i < x.nodes(); i++) {
+        int nodes = x.nodes();
+        for (int i = 1; i < nodes; i++) {
             words.append(' ').append(x.sentRank(i)).append(',').append(x.suspicions(i));
         }
         int limit = x.setLimit(1);
@@ -199,15 +202,27 @@ public final class PromiseTest extends Steering {
         due("behaviors stay", y.setBehavior(2, 0), CodedRelays.SILENT);
         CodedRelays z = busy();
         refusedAll(z, "addLink(v, 3, 0)", v -> z.addLink(v, 3, 0), -1, 3, 4, Integer.MAX_VALUE, Integer.MIN_VALUE);
-        refusedAll(z, "addLink(1, v, 0)", v -> z.addLink(1, v, 0), -1, 0, 1, 4, Integer.MAX_VALUE, Integer.MIN_VALUE);
-        refusedAll(z, "addLink(1, 2, v)", v -> z.addLink(1, 2, v), -1, 10, Integer.MAX_VALUE, Integer.MIN_VALUE);
+        CodedRelays w = busy();
+        refusedAll(w, "addLink(1, v, 0)", v -> w.addLink(1, v, 0), -1, 0, 1, 4, Integer.MAX_VALUE, Integer.MIN_VALUE);
+        CodedRelays u = busy();
+        refusedAll(u, "addLink(1, 2, v)", v -> u.addLink(1, 2, v), -1, 10, Integer.MAX_VALUE, Integer.MIN_VALUE);
+        linksUpToTwenty();
+    }
+
+    private static void linksUpToTwenty() {
+        CodedRelays x = busy();
         for (int i = 4; i < 20; i++) {
-            due("link " + i, z.addLink(0, 3, 1), i);
+            due("link " + i, x.addLink(0, 3, 1), i);
         }
-        refused(z, "the 21st link", () -> z.addLink(0, 3, 1), FULL);
-        refused(z, "a bad one when it is full", () -> z.addLink(3, 3, 1), BAD);
-        refused(z, "a bad loss when it is full", () -> z.addLink(0, 3, 10), BAD);
-        due("links()", z.links(), 20);
+        x.run(2);
+        refused(x, "the 21st link", () -> x.addLink(0, 3, 1), FULL);
+        refused(x, "a bad one when it is full", () -> x.addLink(3, 3, 1), BAD);
+        due("links()", x.links(), 20);
+        CodedRelays y = busy();
+        for (int i = 4; i < 20; i++) {
+            y.addLink(0, 3, 1);
+        }
+        refused(y, "a bad loss when it is full", () -> y.addLink(0, 3, 10), BAD);
     }
 
     static void promise6() {
@@ -712,12 +727,22 @@ public final class PromiseTest extends Steering {
         }
         refusedAll(x, "combination(1, v)", v -> x.combination(1, v), -1, 16, 256, Integer.MAX_VALUE, Integer.MIN_VALUE);
         refusedAll(x, "combination(v, 0)", v -> x.combination(v, 0), -1, 3, Integer.MAX_VALUE, Integer.MIN_VALUE);
+        combinationsOfEight();
+    }
+
+    private static void combinationsOfEight() {
+        CodedRelays x = network(3, 0, 1, 0);
         x.setPackets(8);
         x.runUntil(1);
+        due("rank(1)", x.rank(1), 8);
+        int[] vectors = new int[8];
+        for (int i = 0; i < 8; i++) {
+            vectors[i] = x.vector(1, i);
+        }
         for (int set = 0; set < 256; set++) {
             int sum = 0;
             for (int i = 0; i < 8; i++) {
-                sum ^= (set >> i & 1) * x.vector(1, i);
+                sum ^= (set >> i & 1) * vectors[i];
             }
             due("combination(1, " + sum + ") of eight", x.combination(1, sum), set);
         }
