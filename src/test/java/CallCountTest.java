@@ -114,7 +114,7 @@ public final class CallCountTest {
     private static boolean passes(Path made, String name) throws Exception {
         List<String> words = new ArrayList<>(List.of(Path.of(System.getProperty("java.home"), "bin", "java").toString(),
             "-cp", made.toString()));
-        for (String property : List.of("project.root", "shared.root")) {
+        for (String property : List.of("project.root", "shared.root", "java.io.tmpdir")) {
             if (System.getProperty(property) != null) {
                 words.add("-D" + property + "=" + System.getProperty(property));
             }
